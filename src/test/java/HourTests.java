@@ -19,6 +19,7 @@ public final class HourTests {
         p11Value();
         p12Entry();
         goingOnDrops();
+        twelveAreDroppedAtOnce();
         goingOnFills();
         goingOnSilence();
         goingOnFixed();
@@ -459,6 +460,19 @@ public final class HourTests {
         Check.same("section: first", q.element(0, 6), 1);
         Check.same("section: the dropped one", q.element(1, 6), 0);
         Check.same("section: behind it", q.element(2, 6), 1);
+    }
+
+    private static void twelveAreDroppedAtOnce() {
+        HourClock x = new HourClock();
+        x.pass(3600);
+        for (int e = 0; e < 12; e++) {
+            x.addElement(1, -1, e % 9);
+        }
+        Check.same("twelve would be dropped", x.drops(), 4095);
+        Check.same("none of them begins", x.beginOf(11), -1);
+        Check.same("the hour is over in time", x.finish(), 0);
+        Check.sameText("all twelve, by their ranks", Check.log(x),
+            "0s 3600d9 3600d0 3600d10 3600d1 3600d11 3600d2 3600d3 3600d4 3600d5 3600d6 3600d7 3600d8");
     }
 
     private static void goingOnFills() {
