@@ -1,12 +1,21 @@
+import java.util.function.IntUnaryOperator;
+
 /** What the tests share: an object looked at from outside, and a count of what was not as due. */
 final class Check {
+    private static final int LEAST_INT = Integer.MIN_VALUE;
+    private static final int GREATEST_INT = Integer.MAX_VALUE;
     private static int wrong = 0;
 
     private Check() {
     }
 
     interface Call {
-        void run();
+        void on(Clock c);
+    }
+
+    /** A call with one argument that a test varies. */
+    interface CallWith {
+        int on(Clock c, int argument);
     }
 
     static void same(String what, long got, long due) {
@@ -34,68 +43,123 @@ final class Check {
         }
     }
 
-    /** The call throws exactly this exception and changes nothing. */
-    static void fails(String what, HourClock x, Class<? extends Exception> due, Call call) {
-        String before = view(x);
-        long digest = x.digest();
+    /** The call throws exactly this exception and changes nothing; x is left alone, a twin is asked. */
+    static void fails(String what, Clock x, Class<? extends Exception> due, Call call) {
+        Clock tried = x.twin();
         Class<?> got = null;
         try {
-            call.run();
+            call.on(tried);
         } catch (Exception e) {
             got = e.getClass();
         }
         if (got != due) {
             tell(what + " threw " + got + ", due is " + due);
         }
-        sameText(what + ", the view after the exception", view(x), before);
-        same(what + ", the digest after the exception", x.digest(), digest);
+        sameText(what + ", all that can be seen after the exception", all(tried), all(x.twin()));
     }
 
-    static void failsArgument(String what, HourClock x, Call call) {
+    static void failsArgument(String what, Clock x, Call call) {
         fails(what, x, IllegalArgumentException.class, call);
     }
 
-    static void failsState(String what, HourClock x, Call call) {
+    static void failsState(String what, Clock x, Call call) {
         fails(what, x, IllegalStateException.class, call);
     }
 
-    static void failsIndex(String what, HourClock x, Call call) {
+    static void failsIndex(String what, Clock x, Call call) {
         fails(what, x, IndexOutOfBoundsException.class, call);
     }
 
-    /** The call saves one state, and undo brings it back; the object then is as it was. */
-    static void undoable(String what, HourClock x, Call call) {
-        String before = view(x);
-        long due = Math.min(4, saved(x) + 1);
-        call.run();
-        same(what + ", the saved states", saved(x), due);
-        same(what + ", undo()", x.undo(), due - 1);
-        sameText(what + ", the view after undo()", view(x), before);
+    /** The argument may be least and greatest, but not one less or more, nor at the ends of int. */
+    static void argumentFrom(String what, Clock x, int least, int greatest, CallWith call) {
+        int[] right = {least, greatest};
+        for (int argument : right) {
+            try {
+                call.on(x.twin(), argument);
+            } catch (RuntimeException e) {
+                tell(what + ", with " + argument + ", threw " + e.getClass());
+            }
+        }
+        int[] outside = {least - 1, greatest + 1, LEAST_INT, GREATEST_INT};
+        for (int argument : outside) {
+            failsArgument(what + ", with " + argument, x, c -> call.on(c, argument));
+        }
     }
 
-    /** The call only asks: neither the view nor the saved states are others then. */
-    static void asks(String what, HourClock x, Call call) {
-        String before = view(x);
-        long digest = x.digest();
-        call.run();
-        sameText(what + ", the view after asking", view(x), before);
-        same(what + ", the digest after asking", x.digest(), digest);
+    /** There are things with the numbers below count, and no others. */
+    static void numbersBelow(String what, Clock x, int count, CallWith call) {
+        for (int n = 0; n < count; n++) {
+            try {
+                call.on(x.twin(), n);
+            } catch (RuntimeException e) {
+                tell(what + ", with " + n + ", threw " + e.getClass());
+            }
+        }
+        int[] outside = {-1, count, count + 1, 1000, LEAST_INT, GREATEST_INT};
+        for (int n : outside) {
+            failsIndex(what + ", with " + n, x, c -> call.on(c, n));
+        }
     }
 
-    /** All that can be asked, but the saved states. */
-    static String view(HourClock x) {
+    /** The call saves one state, and undo brings it back; x is left alone. */
+    static void undoable(String what, Clock x, Call call) {
+        Clock tried = x.twin();
+        int before = saved(x);
+        call.on(tried);
+        same(what + ", the saved states", saved(tried), Math.min(4, before + 1));
+        same(what + ", undo()", tried.undo(), Math.min(3, before));
+        sameText(what + ", the view after undo()", view(tried), view(x.twin()));
+    }
+
+    /** The call, though successful, saves no state. */
+    static void savesNothing(String what, Clock x, Call call) {
+        Clock tried = x.twin();
+        call.on(tried);
+        same(what + ", the saved states", saved(tried), saved(x));
+        sameText(what + ", the view", view(tried), view(x.twin()));
+    }
+
+    /** The call only asks: nothing is another then. */
+    static void asks(String what, Clock x, Call call) {
+        Clock tried = x.twin();
+        call.on(tried);
+        sameText(what + ", all that can be seen after asking", all(tried), all(x.twin()));
+    }
+
+    /** The number of saved states; found by undoing them on a twin. */
+    static int saved(Clock x) {
+        Clock tried = x.twin();
+        for (int saved = 0; saved <= 5; saved++) {
+            try {
+                tried.undo();
+            } catch (IllegalStateException e) {
+                return saved;
+            }
+        }
+        tell("there are more than 5 saved states");
+        return -1;
+    }
+
+    static int textLength(Clock x) {
+        return x.twin().clearText();
+    }
+
+    /** All that can be asked, but the text and the saved states. */
+    static String view(Clock x) {
         StringBuilder all = new StringBuilder();
         for (int what = 0; what <= 13; what++) {
             all.append(x.value(what)).append(' ');
         }
-        for (int e = 0; e < x.value(0); e++) {
+        int elements = x.value(0);
+        for (int e = 0; e < elements; e++) {
             all.append("| e").append(e);
             for (int what = 0; what <= 6; what++) {
                 all.append(' ').append(x.element(e, what));
             }
             all.append(" b ").append(x.backTime(e)).append(' ').append(x.beginOf(e)).append(' ');
         }
-        for (int f = 0; f < x.value(1); f++) {
+        int fillers = x.value(1);
+        for (int f = 0; f < fillers; f++) {
             all.append("| f").append(f);
             for (int what = 0; what <= 2; what++) {
                 all.append(' ').append(x.filler(f, what));
@@ -107,10 +171,28 @@ final class Check {
         return all.toString();
     }
 
+    /** The view, the saved states and the text; the object is used up then. */
+    private static String all(Clock x) {
+        StringBuilder all = new StringBuilder(view(x));
+        all.append(" | digests ").append(x.digest());
+        for (int saved = 0; saved <= 5; saved++) {
+            try {
+                x.undo();
+            } catch (IllegalStateException e) {
+                all.append(" | no more");
+                break;
+            }
+            all.append(' ').append(x.digest());
+        }
+        all.append(" | read ").append(x.parse()).append(' ').append(x.digest());
+        return all.toString();
+    }
+
     /** The log in a short form: e an element, f a filler, s silence, d a dropped element. */
-    static String log(HourClock x) {
+    static String log(Clock x) {
         StringBuilder all = new StringBuilder();
-        for (int n = 0; n < x.value(11); n++) {
+        int entries = x.value(11);
+        for (int n = 0; n < entries; n++) {
             int kind = x.entry(n, 1);
             int number = x.entry(n, 2);
             all.append(n == 0 ? "" : " ").append(x.entry(n, 0)).append(kind >= 0 && kind <= 3 ? "efsd".charAt(kind) : '?');
@@ -121,60 +203,64 @@ final class Check {
         return all.toString();
     }
 
-    /** The digest as the document makes it, but without its last step. */
-    static long digestWithoutSaved(HourClock x, int textLength) {
+    /** The digest as the document makes it, from the single answers. */
+    static long digestOf(Clock x) {
+        Clock y = x.twin();
         long h = 3559;
-        h = 31 * h + textLength;
+        h = 31 * h + textLength(x);
         for (int what = 0; what <= 13; what++) {
-            h = 31 * h + x.value(what);
+            h = 31 * h + y.value(what);
         }
-        for (int e = 0; e < x.value(0); e++) {
+        int elements = y.value(0);
+        for (int e = 0; e < elements; e++) {
             for (int what = 0; what <= 6; what++) {
-                h = 31 * h + x.element(e, what);
+                h = 31 * h + y.element(e, what);
             }
-            h = 31 * h + x.backTime(e);
-            h = 31 * h + x.beginOf(e);
+            h = 31 * h + y.backTime(e);
+            h = 31 * h + y.beginOf(e);
         }
-        for (int f = 0; f < x.value(1); f++) {
+        int fillers = y.value(1);
+        for (int f = 0; f < fillers; f++) {
             for (int what = 0; what <= 2; what++) {
-                h = 31 * h + x.filler(f, what);
+                h = 31 * h + y.filler(f, what);
             }
         }
-        for (int n = 0; n < x.value(11); n++) {
+        int entries = y.value(11);
+        for (int n = 0; n < entries; n++) {
             for (int what = 0; what <= 2; what++) {
-                h = 31 * h + x.entry(n, what);
+                h = 31 * h + y.entry(n, what);
             }
         }
-        return 31 * h + x.endOfHour();
+        h = 31 * h + y.endOfHour();
+        return 31 * h + saved(x);
     }
 
-    /** The number of saved states, which only the digest tells; the text is found by trying. */
-    static long saved(HourClock x) {
-        for (int textLength = 0; textLength <= 100; textLength++) {
-            long saved = x.digest() - 31 * digestWithoutSaved(x, textLength);
-            if (saved >= 0 && saved <= 4) {
-                return saved;
-            }
+    /** The answers for the arguments 0, 1, .. are these. */
+    static void sameRow(String what, IntUnaryOperator call, int... due) {
+        for (int n = 0; n < due.length; n++) {
+            same(what + " for " + n, call.applyAsInt(n), due[n]);
         }
-        tell("the digest fits no number of saved states");
-        return -1;
     }
 
-    static void type(HourClock x, String text) {
+    static void type(Clock x, String text) {
         x.clearText();
+        append(x, text);
+    }
+
+    static void append(Clock x, String text) {
         for (int i = 0; i < text.length(); i++) {
             x.append(text.charAt(i));
         }
     }
 
-    static int parse(HourClock x, String text) {
+    static int parse(Clock x, String text) {
         type(x, text);
         return x.parse();
     }
 
     /** An hour that is read from a text; one state is saved. */
-    static HourClock hour(String text) {
-        HourClock x = new HourClock();
+    static Clock hour(String text) {
+        Clock x = new Clock();
         int got = parse(x, text);
         if (got < 0) {
             tell("the text " + text + " was refused with " + got);

@@ -27,7 +27,7 @@ public final class HourTests {
     }
 
     private static void p1NewObject() {
-        HourClock x = new HourClock();
+        Clock x = new Clock();
         int[] due = {0, 0, 0, 0, 0, 0, 0, 0, 3600, -1, 0, 0, 0, 0};
         for (int what = 0; what < due.length; what++) {
             Check.same("new: value(" + what + ")", x.value(what), due[what]);
@@ -35,15 +35,15 @@ public final class HourTests {
         Check.same("new: saved", Check.saved(x), 0);
         Check.same("new: endOfHour()", x.endOfHour(), 3600);
         Check.same("new: clearText()", x.clearText(), 0);
-        Check.failsState("new: undo()", x, () -> x.undo());
-        HourClock y = new HourClock();
+        Check.failsState("new: undo()", x, c -> c.undo());
+        Clock y = new Clock();
         x.addElement(10, -1, 5);
         Check.same("another object: value(0)", y.value(0), 0);
     }
 
     private static void p2AddElement() {
-        HourClock x = new HourClock();
-        Check.undoable("addElement(1, NONE, 0)", x, () -> x.addElement(1, HourClock.NONE, 0));
+        Clock x = new Clock();
+        Check.undoable("addElement(1, NONE, 0)", x, c -> c.addElement(1, Clock.NONE, 0));
         Check.same("addElement(1, NONE, 0)", x.addElement(1, -1, 0), 0);
         Check.same("addElement(1800, 3599, 9)", x.addElement(1800, 3599, 9), 1);
         Check.same("addElement(5, 0, 5)", x.addElement(5, 0, 5), 2);
@@ -60,31 +60,31 @@ public final class HourTests {
         for (int e = 4; e < 12; e++) {
             Check.same("addElement number " + e, x.addElement(1, -1, 9), e);
         }
-        Check.failsState("a 13th element", x, () -> x.addElement(1, -1, 9));
-        Check.failsArgument("a 13th element that is wrong", x, () -> x.addElement(0, -1, 9));
+        Check.failsState("a 13th element", x, c -> c.addElement(1, -1, 9));
+        Check.failsArgument("a 13th element that is wrong", x, c -> c.addElement(0, -1, 9));
         Check.same("still 12", x.value(0), 12);
     }
 
     private static void p2AddElementWrong() {
-        HourClock x = new HourClock();
+        Clock x = new Clock();
         int[][] wrong = {{0, 0, 0}, {-1, 0, 0}, {1801, 0, 0}, {1, -2, 0}, {1, 3600, 0}, {1, 0, -1}, {1, 0, 10},
             {Integer.MIN_VALUE, 0, 0}, {Integer.MAX_VALUE, 0, 0}, {1, Integer.MIN_VALUE, 0}, {1, Integer.MAX_VALUE, 0},
             {1, 0, Integer.MIN_VALUE}, {1, 0, Integer.MAX_VALUE}};
         for (int[] w : wrong) {
-            Check.failsArgument("addElement(" + w[0] + ", " + w[1] + ", " + w[2] + ")", x, () -> x.addElement(w[0], w[1], w[2]));
+            Check.failsArgument("addElement(" + w[0] + ", " + w[1] + ", " + w[2] + ")", x, c -> c.addElement(w[0], w[1], w[2]));
         }
         Check.same("passing an empty hour", x.pass(3600), 3600);
-        Check.undoable("addElement at 3600, not yet over", x, () -> x.addElement(1, -1, 9));
+        Check.undoable("addElement at 3600, not yet over", x, c -> c.addElement(1, -1, 9));
         x.finish();
-        Check.failsState("addElement in an hour that is over", x, () -> x.addElement(1, 0, 0));
-        Check.failsArgument("addElement, wrong, in an hour that is over", x, () -> x.addElement(1, 0, 10));
+        Check.failsState("addElement in an hour that is over", x, c -> c.addElement(1, 0, 0));
+        Check.failsArgument("addElement, wrong, in an hour that is over", x, c -> c.addElement(1, 0, 10));
         x.again();
         Check.same("addElement in the next hour", x.addElement(1, 0, 0), 0);
     }
 
     private static void p3AddFiller() {
-        HourClock x = new HourClock();
-        Check.undoable("addFiller(1)", x, () -> x.addFiller(1));
+        Clock x = new Clock();
+        Check.undoable("addFiller(1)", x, c -> c.addFiller(1));
         Check.same("addFiller(1)", x.addFiller(1), 0);
         Check.same("addFiller(900)", x.addFiller(900), 1);
         Check.same("filler(1, 0)", x.filler(1, 0), 900);
@@ -92,39 +92,39 @@ public final class HourTests {
         Check.same("filler(1, 2)", x.filler(1, 2), -1);
         int[] wrong = {0, -1, 901, Integer.MIN_VALUE, Integer.MAX_VALUE};
         for (int w : wrong) {
-            Check.failsArgument("addFiller(" + w + ")", x, () -> x.addFiller(w));
+            Check.failsArgument("addFiller(" + w + ")", x, c -> c.addFiller(w));
         }
         for (int f = 2; f < 10; f++) {
             Check.same("addFiller number " + f, x.addFiller(f), f);
         }
-        Check.failsState("an 11th filler", x, () -> x.addFiller(1));
-        Check.failsArgument("an 11th filler that is wrong", x, () -> x.addFiller(0));
-        HourClock y = new HourClock();
+        Check.failsState("an 11th filler", x, c -> c.addFiller(1));
+        Check.failsArgument("an 11th filler that is wrong", x, c -> c.addFiller(0));
+        Clock y = new Clock();
         y.finish();
-        Check.failsState("addFiller in an hour that is over", y, () -> y.addFiller(1));
-        Check.failsArgument("addFiller, wrong, in an hour that is over", y, () -> y.addFiller(901));
+        Check.failsState("addFiller in an hour that is over", y, c -> c.addFiller(1));
+        Check.failsArgument("addFiller, wrong, in an hour that is over", y, c -> c.addFiller(901));
     }
 
     private static void p4StretchWaiting() {
-        HourClock x = Check.hour("1800;10@3000;");
-        Check.undoable("stretch(0, 1800)", x, () -> x.stretch(0, 1800));
-        Check.undoable("stretch(0, 0)", x, () -> x.stretch(0, 0));
+        Clock x = Check.hour("1800;10@3000;");
+        Check.undoable("stretch(0, 1800)", x, c -> c.stretch(0, 1800));
+        Check.undoable("stretch(0, 0)", x, c -> c.stretch(0, 0));
         Check.same("stretch(0, 1800)", x.stretch(0, 1800), 3600);
         Check.same("its length", x.element(0, 0), 3600);
-        Check.failsState("stretch(0, 1) above 3600", x, () -> x.stretch(0, 1));
+        Check.failsState("stretch(0, 1) above 3600", x, c -> c.stretch(0, 1));
         Check.same("stretch(0, -1800)", x.stretch(0, -1800), 1800);
         Check.same("stretch(0, -1799)", x.stretch(0, -1799), 1);
-        Check.failsState("stretch(0, -1) below 1", x, () -> x.stretch(0, -1));
+        Check.failsState("stretch(0, -1) below 1", x, c -> c.stretch(0, -1));
         Check.same("a fixed one", x.stretch(1, 5), 15);
         Check.same("the other one is as it was", x.element(0, 0), 1);
     }
 
     private static void p4StretchOnAir() {
-        HourClock x = Check.hour("100;50r9;");
+        Clock x = Check.hour("100;50r9;");
         x.pass(60);
-        Check.undoable("stretch(0, -40) to the present second", x, () -> x.stretch(0, -40));
-        Check.failsState("stretch(0, -41), it had ended", x, () -> x.stretch(0, -41));
-        Check.failsState("stretch(0, -99), it had ended", x, () -> x.stretch(0, -99));
+        Check.undoable("stretch(0, -40) to the present second", x, c -> c.stretch(0, -40));
+        Check.failsState("stretch(0, -41), it had ended", x, c -> c.stretch(0, -41));
+        Check.failsState("stretch(0, -99), it had ended", x, c -> c.stretch(0, -99));
         Check.same("stretch(0, -39)", x.stretch(0, -39), 61);
         Check.same("a second is left", x.value(13), 1);
         Check.same("it is on the air", x.element(0, 3), 1);
@@ -133,43 +133,43 @@ public final class HourTests {
         Check.same("nothing is on the air", x.value(13), 0);
         Check.same("the second is as it was", x.value(2), 60);
         Check.same("the log is as it was", x.value(11), 1);
-        Check.failsState("it cannot be stretched again", x, () -> x.stretch(0, 1));
+        Check.failsState("it cannot be stretched again", x, c -> c.stretch(0, 1));
         x.pass(1);
         Check.same("the next one began at once", x.element(1, 4), 60);
         Check.same("stretch(1, 1800) on the air", x.stretch(1, 1800), 1850);
         Check.same("it goes on as long", x.value(13), 1849);
         x.pass(1849);
         Check.same("it is done then", x.element(1, 3), 2);
-        HourClock y = Check.hour("10@5;");
+        Clock y = Check.hour("10@5;");
         y.pass(10);
-        Check.failsState("a late begin counts", y, () -> y.stretch(0, -6));
+        Check.failsState("a late begin counts", y, c -> c.stretch(0, -6));
         Check.same("stretch(0, -5) of what began at 5", y.stretch(0, -5), 5);
         Check.same("done at the second 10", y.element(0, 3), 2);
     }
 
     private static void p4StretchWrong() {
-        HourClock x = Check.hour("10r9;10r0;1800@20;");
+        Clock x = Check.hour("10r9;10r0;1800@20;");
         int[] noElement = {-1, 3, 12, Integer.MIN_VALUE, Integer.MAX_VALUE};
         for (int e : noElement) {
-            Check.failsIndex("stretch(" + e + ", 0)", x, () -> x.stretch(e, 0));
-            Check.failsIndex("stretch(" + e + ", 1801)", x, () -> x.stretch(e, 1801));
+            Check.failsIndex("stretch(" + e + ", 0)", x, c -> c.stretch(e, 0));
+            Check.failsIndex("stretch(" + e + ", 1801)", x, c -> c.stretch(e, 1801));
         }
         int[] wrong = {-1801, 1801, Integer.MIN_VALUE, Integer.MAX_VALUE};
         for (int by : wrong) {
-            Check.failsArgument("stretch(0, " + by + ")", x, () -> x.stretch(0, by));
+            Check.failsArgument("stretch(0, " + by + ")", x, c -> c.stretch(0, by));
         }
         x.drop(1);
-        Check.failsState("stretch of a dropped one", x, () -> x.stretch(1, 0));
-        Check.failsArgument("stretch, wrong, of a dropped one", x, () -> x.stretch(1, 1801));
+        Check.failsState("stretch of a dropped one", x, c -> c.stretch(1, 0));
+        Check.failsArgument("stretch, wrong, of a dropped one", x, c -> c.stretch(1, 1801));
         x.pass(11);
-        Check.failsState("stretch of one that is done", x, () -> x.stretch(0, 0));
+        Check.failsState("stretch of one that is done", x, c -> c.stretch(0, 0));
         x.finish();
-        Check.failsState("stretch in an hour that is over", x, () -> x.stretch(2, 0));
+        Check.failsState("stretch in an hour that is over", x, c -> c.stretch(2, 0));
     }
 
     private static void p5Drop() {
-        HourClock x = Check.hour("10;20@100;30;40r9;");
-        Check.undoable("drop(1)", x, () -> x.drop(1));
+        Clock x = Check.hour("10;20@100;30;40r9;");
+        Check.undoable("drop(1)", x, c -> c.drop(1));
         Check.same("drop(1), a fixed one", x.drop(1), 3);
         Check.same("it is dropped", x.element(1, 3), 3);
         Check.same("the goal is another one", x.value(8), 3600);
@@ -181,7 +181,7 @@ public final class HourTests {
         x.pass(5);
         x.pass(5);
         Check.same("silence then", x.value(7), 5);
-        HourClock y = Check.hour("10@100;10@200;");
+        Clock y = Check.hour("10@100;10@200;");
         y.pass(50);
         Check.same("drop(0) during the silence ahead of it", y.drop(0), 1);
         Check.same("the silence still ends at the old goal", y.value(13), 50);
@@ -190,24 +190,24 @@ public final class HourTests {
     }
 
     private static void p5DropWrong() {
-        HourClock x = Check.hour("10;20@100;30;");
+        Clock x = Check.hour("10;20@100;30;");
         int[] noElement = {-1, 3, 12, Integer.MIN_VALUE, Integer.MAX_VALUE};
         for (int e : noElement) {
-            Check.failsIndex("drop(" + e + ")", x, () -> x.drop(e));
+            Check.failsIndex("drop(" + e + ")", x, c -> c.drop(e));
         }
         x.drop(2);
-        Check.failsState("drop of a dropped one", x, () -> x.drop(2));
+        Check.failsState("drop of a dropped one", x, c -> c.drop(2));
         x.pass(1);
-        Check.failsState("drop of the one on the air", x, () -> x.drop(0));
+        Check.failsState("drop of the one on the air", x, c -> c.drop(0));
         x.pass(9);
-        Check.failsState("drop of one that is done", x, () -> x.drop(0));
+        Check.failsState("drop of one that is done", x, c -> c.drop(0));
         x.finish();
-        Check.failsState("drop in an hour that is over", x, () -> x.drop(1));
+        Check.failsState("drop in an hour that is over", x, c -> c.drop(1));
     }
 
     private static void p6Pass() {
-        HourClock x = Check.hour("10;20;+5;");
-        Check.undoable("pass(1)", x, () -> x.pass(1));
+        Clock x = Check.hour("10;20;+5;");
+        Check.undoable("pass(1)", x, c -> c.pass(1));
         Check.same("pass(10)", x.pass(10), 10);
         Check.same("the second", x.value(2), 10);
         Check.same("what ends then is done", x.element(0, 3), 2);
@@ -221,9 +221,9 @@ public final class HourTests {
         Check.same("silent seconds so far", x.value(7), 3011 - 35);
         int[] wrong = {0, -1, 3601, Integer.MIN_VALUE, Integer.MAX_VALUE};
         for (int w : wrong) {
-            Check.failsArgument("pass(" + w + ")", x, () -> x.pass(w));
+            Check.failsArgument("pass(" + w + ")", x, c -> c.pass(w));
         }
-        HourClock y = Check.hour("1;2;3;");
+        Clock y = Check.hour("1;2;3;");
         for (int i = 0; i < 6; i++) {
             Check.same("second by second", y.pass(1), 1);
         }
@@ -231,57 +231,57 @@ public final class HourTests {
     }
 
     private static void p6PassAtTheEnd() {
-        HourClock x = new HourClock();
+        Clock x = new Clock();
         Check.same("pass(3600)", x.pass(3600), 3600);
         Check.same("the hour is not found to be over", x.value(3), 0);
         Check.same("no lateness yet", x.value(9), -1);
         Check.same("pass(1) finds that it is over", x.pass(1), 0);
         Check.same("it is over", x.value(3), 1);
         Check.same("the second stays", x.value(2), 3600);
-        Check.undoable("pass in an hour that is over", x, () -> x.pass(10));
+        Check.undoable("pass in an hour that is over", x, c -> c.pass(10));
         Check.same("pass(10)", x.pass(10), 0);
         Check.same("the second still stays", x.value(2), 3600);
-        HourClock y = Check.hour("1800@3500;");
+        Clock y = Check.hour("1800@3500;");
         Check.same("pass(3600) over the end", y.pass(3600), 3600);
         Check.same("pass(3600) up to the end", y.pass(3600), 1700);
         Check.same("it is over later", y.value(3), 1);
         Check.same("the second is later", y.value(2), 5300);
-        HourClock z = new HourClock();
+        Clock z = new Clock();
         z.pass(1);
         Check.same("pass(3600) from 1", z.pass(3600), 3599);
         Check.same("found over in the same call", z.value(3), 1);
     }
 
     private static void p7Finish() {
-        HourClock x = Check.hour("600;600@3300;");
-        Check.undoable("finish()", x, () -> x.finish());
+        Clock x = Check.hour("600;600@3300;");
+        Check.undoable("finish()", x, c -> c.finish());
         Check.same("finish()", x.finish(), 300);
         Check.same("over", x.value(3), 1);
         Check.same("the second", x.value(2), 3900);
         Check.sameText("the log", Check.log(x), "0e0 600s 3300e1");
-        Check.undoable("finish() when it is over", x, () -> x.finish());
+        Check.undoable("finish() when it is over", x, c -> c.finish());
         Check.same("finish() again", x.finish(), 300);
-        Check.same("finish() of an empty hour", new HourClock().finish(), 0);
-        HourClock y = Check.hour("1800r9;1800r9;1800r9;1800r9;1800r9;1800r9;1800r9;1800r9;1800r9;1800r9;1800r9;1800r9;");
+        Check.same("finish() of an empty hour", new Clock().finish(), 0);
+        Clock y = Check.hour("1800r9;1800r9;1800r9;1800r9;1800r9;1800r9;1800r9;1800r9;1800r9;1800r9;1800r9;1800r9;");
         for (int e = 0; e < 12; e++) {
             y.stretch(e, 1800);
         }
         Check.same("the longest hour", y.finish(), 11 * 3600);
-        HourClock z = Check.hour("1r0;");
+        Clock z = Check.hour("1r0;");
         z.pass(3600);
         Check.same("finish() at 3600", z.finish(), 0);
     }
 
     private static void p8Again() {
-        HourClock x = Check.hour("1800r9;1800r9;30@3500;5r3;+40;");
-        Check.failsState("again() in an hour that goes on", x, () -> x.again());
+        Clock x = Check.hour("1800r9;1800r9;30@3500;5r3;+40;");
+        Check.failsState("again() in an hour that goes on", x, c -> c.again());
         x.pass(3600);
-        Check.failsState("again() before the end is found", x, () -> x.again());
+        Check.failsState("again() before the end is found", x, c -> c.again());
         x.stretch(2, 1);
         x.drop(3);
         x.finish();
         Check.same("a fixed one was late", x.value(10), 100);
-        Check.undoable("again()", x, () -> x.again());
+        Check.undoable("again()", x, c -> c.again());
         Check.same("again()", x.again(), 1);
         int[] due = {4, 1, 0, 0, 4, 0, 1, 0, 3500, -1, 0, 0, 1, 0};
         for (int what = 0; what < due.length; what++) {
@@ -301,11 +301,11 @@ public final class HourTests {
         Check.same("the filler waits", x.filler(0, 1), 0);
         Check.same("the filler has not begun", x.filler(0, 2), -1);
         Check.same("no silence", x.value(7), 0);
-        Check.failsState("again() twice", x, () -> x.again());
+        Check.failsState("again() twice", x, c -> c.again());
     }
 
     private static void p9Element() {
-        HourClock x = Check.hour("100r9;50r0;20@80r3;10;");
+        Clock x = Check.hour("100r9;50r0;20@80r3;10;");
         x.pass(80);
         int[][] due = {{100, -1, 9, 1, 0, -1, 0}, {50, -1, 0, 3, -1, -1, 0}, {20, 80, 3, 0, -1, -1, 0}, {10, -1, 5, 0, -1, -1, 0}};
         sameElements("at 80", x, due);
@@ -315,24 +315,24 @@ public final class HourTests {
         x.finish();
         Check.same("a floating one has no lateness", x.element(3, 5), -1);
         Check.same("a late one keeps its lateness", x.element(2, 5), 20);
-        HourClock y = Check.hour("5@7;");
+        Clock y = Check.hour("5@7;");
         y.drop(0);
         Check.same("a dropped fixed one has no lateness", y.element(0, 5), -1);
-        HourClock z = Check.hour("5@7;6;");
+        Clock z = Check.hour("5@7;6;");
         z.pass(8);
         Check.same("in time is lateness 0", z.element(0, 5), 0);
         int[] noElement = {-1, 2, 12, Integer.MIN_VALUE, Integer.MAX_VALUE};
         for (int e : noElement) {
-            Check.failsIndex("element(" + e + ", 0)", z, () -> z.element(e, 0));
-            Check.failsIndex("element(" + e + ", 7)", z, () -> z.element(e, 7));
+            Check.failsIndex("element(" + e + ", 0)", z, c -> c.element(e, 0));
+            Check.failsIndex("element(" + e + ", 7)", z, c -> c.element(e, 7));
         }
         int[] wrong = {-1, 7, Integer.MIN_VALUE, Integer.MAX_VALUE};
         for (int what : wrong) {
-            Check.failsArgument("element(0, " + what + ")", z, () -> z.element(0, what));
+            Check.failsArgument("element(0, " + what + ")", z, c -> c.element(0, what));
         }
     }
 
-    private static void sameElements(String when, HourClock x, int[][] due) {
+    private static void sameElements(String when, Clock x, int[][] due) {
         for (int e = 0; e < due.length; e++) {
             for (int what = 0; what < due[e].length; what++) {
                 Check.same(when + ": element(" + e + ", " + what + ")", x.element(e, what), due[e][what]);
@@ -341,7 +341,7 @@ public final class HourTests {
     }
 
     private static void p10Filler() {
-        HourClock x = Check.hour("+10;+20;10@30;");
+        Clock x = Check.hour("+10;+20;10@30;");
         x.pass(5);
         Check.same("filler(0, 0)", x.filler(0, 0), 10);
         Check.same("filler(0, 1) on the air", x.filler(0, 1), 1);
@@ -354,17 +354,17 @@ public final class HourTests {
         Check.same("filler(1, 2)", x.filler(1, 2), 10);
         int[] noFiller = {-1, 2, 10, Integer.MIN_VALUE, Integer.MAX_VALUE};
         for (int f : noFiller) {
-            Check.failsIndex("filler(" + f + ", 0)", x, () -> x.filler(f, 0));
-            Check.failsIndex("filler(" + f + ", 3)", x, () -> x.filler(f, 3));
+            Check.failsIndex("filler(" + f + ", 0)", x, c -> c.filler(f, 0));
+            Check.failsIndex("filler(" + f + ", 3)", x, c -> c.filler(f, 3));
         }
         int[] wrong = {-1, 3, Integer.MIN_VALUE, Integer.MAX_VALUE};
         for (int what : wrong) {
-            Check.failsArgument("filler(0, " + what + ")", x, () -> x.filler(0, what));
+            Check.failsArgument("filler(0, " + what + ")", x, c -> c.filler(0, what));
         }
     }
 
     private static void p11Value() {
-        HourClock x = Check.hour("1800r9;1800r9;30@3500;20;+40;+50;10@3599;");
+        Clock x = Check.hour("1800r9;1800r9;30@3500;20;+40;+50;10@3599;");
         sameValues("at 0", x, new int[] {5, 2, 0, 0, 5, 0, 2, 0, 3500, -1, 0, 0, 0, 0});
         x.pass(1000);
         sameValues("at 1000", x, new int[] {5, 2, 1000, 0, 4, 0, 2, 0, 3500, -1, 0, 1, 0, 800});
@@ -375,7 +375,7 @@ public final class HourTests {
         x.finish();
         Check.same("over", x.value(3), 1);
         Check.same("the goal when nothing waits", x.value(8), 3600);
-        HourClock y = Check.hour("700@0;10@100;10@690;");
+        Clock y = Check.hour("700@0;10@100;10@690;");
         y.pass(705);
         Check.same("the lateness so far", y.value(10), 600);
         y.finish();
@@ -383,18 +383,18 @@ public final class HourTests {
         Check.same("no lateness of the hour", y.value(9), 0);
         int[] wrong = {-1, 14, Integer.MIN_VALUE, Integer.MAX_VALUE};
         for (int what : wrong) {
-            Check.failsArgument("value(" + what + ")", y, () -> y.value(what));
+            Check.failsArgument("value(" + what + ")", y, c -> c.value(what));
         }
     }
 
-    private static void sameValues(String when, HourClock x, int[] due) {
+    private static void sameValues(String when, Clock x, int[] due) {
         for (int what = 0; what < due.length; what++) {
             Check.same(when + ": value(" + what + ")", x.value(what), due[what]);
         }
     }
 
     private static void p12Entry() {
-        HourClock x = Check.hour("10;20r0;5@20;+3;");
+        Clock x = Check.hour("10;20r0;5@20;+3;");
         x.finish();
         int[][] due = {{0, 3, 1}, {0, 0, 0}, {10, 1, 0}, {13, 2, -1}, {20, 0, 2}, {25, 2, -1}};
         Check.same("the entries", x.value(11), due.length);
@@ -405,19 +405,19 @@ public final class HourTests {
         }
         int[] noEntry = {-1, 6, 35, 100, Integer.MIN_VALUE, Integer.MAX_VALUE};
         for (int n : noEntry) {
-            Check.failsIndex("entry(" + n + ", 0)", x, () -> x.entry(n, 0));
-            Check.failsIndex("entry(" + n + ", 3)", x, () -> x.entry(n, 3));
+            Check.failsIndex("entry(" + n + ", 0)", x, c -> c.entry(n, 0));
+            Check.failsIndex("entry(" + n + ", 3)", x, c -> c.entry(n, 3));
         }
         int[] wrong = {-1, 3, Integer.MIN_VALUE, Integer.MAX_VALUE};
         for (int what : wrong) {
-            Check.failsArgument("entry(0, " + what + ")", x, () -> x.entry(0, what));
+            Check.failsArgument("entry(0, " + what + ")", x, c -> c.entry(0, what));
         }
         longestLog();
     }
 
     /** Twelve fixed elements, each behind a silence, and ten fillers at the end: 35 entries. */
     private static void longestLog() {
-        HourClock x = new HourClock();
+        Clock x = new Clock();
         for (int e = 0; e < 12; e++) {
             x.addElement(1, e * 100 + 50, 5);
         }
@@ -433,29 +433,29 @@ public final class HourTests {
     }
 
     private static void goingOnDrops() {
-        HourClock x = Check.hour("100r1;100r0;100r0;100r2;50@250;100r0;");
+        Clock x = Check.hour("100r1;100r0;100r0;100r2;50@250;100r0;");
         x.pass(1);
         Check.sameText("the lowest rank, of several the last one", Check.log(x), "0d2 0d1 0e0");
-        HourClock y = Check.hour("100r8;100r8;100r9;100r9;5@250;");
+        Clock y = Check.hour("100r8;100r8;100r9;100r9;5@250;");
         y.pass(1);
         Check.sameText("a rank of 9 is not dropped", Check.log(y), "0d1 0d0 0e2");
         y.finish();
         Check.same("they run over", y.element(2, 4) * 1000 + y.element(3, 4), 100);
         Check.same("the hour is in time", y.value(9), 0);
-        HourClock z = Check.hour("100r0;150r0;50@250;");
+        Clock z = Check.hour("100r0;150r0;50@250;");
         z.pass(1);
         Check.sameText("what just fits is not dropped", Check.log(z), "0e0");
-        HourClock w = Check.hour("100r0;151r0;50@250;");
+        Clock w = Check.hour("100r0;151r0;50@250;");
         w.pass(1);
         Check.sameText("a second too much", Check.log(w), "0d1 0e0");
-        HourClock v = Check.hour("100@0;10r8;10@50;10r9;10@60;");
+        Clock v = Check.hour("100@0;10r8;10@50;10r9;10@60;");
         v.finish();
         Check.sameText("late ones", Check.log(v), "0e0 100d1 100e2 110e3 120e4 130s");
-        HourClock u = Check.hour("10;20@3000;10r0;");
+        Clock u = Check.hour("10;20@3000;10r0;");
         u.drop(1);
         u.pass(1);
         Check.same("the section goes past what is dropped", u.element(2, 6), 1);
-        HourClock q = Check.hour("10;20;30;");
+        Clock q = Check.hour("10;20;30;");
         q.drop(1);
         Check.same("section: first", q.element(0, 6), 1);
         Check.same("section: the dropped one", q.element(1, 6), 0);
@@ -463,7 +463,7 @@ public final class HourTests {
     }
 
     private static void twelveAreDroppedAtOnce() {
-        HourClock x = new HourClock();
+        Clock x = new Clock();
         x.pass(3600);
         for (int e = 0; e < 12; e++) {
             x.addElement(1, -1, e % 9);
@@ -476,25 +476,25 @@ public final class HourTests {
     }
 
     private static void goingOnFills() {
-        HourClock x = Check.hour("10@100;+60;+40;+90;+50;+50;");
+        Clock x = Check.hour("10@100;+60;+40;+90;+50;+50;");
         x.pass(100);
         Check.sameText("greatest sum, fewest, least number", Check.log(x), "0f0 60f1");
-        HourClock y = Check.hour("10@100;+30;+30;+40;+99;");
+        Clock y = Check.hour("10@100;+30;+30;+40;+99;");
         y.pass(100);
         Check.sameText("the sum counts before the number of fillers", Check.log(y), "0f0 30f1 60f2");
-        HourClock z = Check.hour("10@100;+30;+70;+100;");
+        Clock z = Check.hour("10@100;+30;+70;+100;");
         z.pass(100);
         Check.sameText("one is fewer than two", Check.log(z), "0f2");
-        HourClock w = Check.hour("10@100;+101;+200;");
+        Clock w = Check.hour("10@100;+101;+200;");
         w.pass(100);
         Check.sameText("too long ones", Check.log(w), "0s");
-        HourClock v = Check.hour("10@100;+97;+2;+1;");
+        Clock v = Check.hour("10@100;+97;+2;+1;");
         v.finish();
         Check.sameText("one may be played at its own end", Check.log(v), "0f0 97f1 99f2 100e0 110s");
-        HourClock u = Check.hour("10@100;+95;");
+        Clock u = Check.hour("10@100;+95;");
         u.finish();
         Check.sameText("what is left is silence", Check.log(u), "0f0 95s 100e0 110s");
-        HourClock t = Check.hour("10@100;+60;+90;");
+        Clock t = Check.hour("10@100;+60;+90;");
         t.pass(30);
         t.addFiller(10);
         t.pass(300);
@@ -502,7 +502,7 @@ public final class HourTests {
     }
 
     private static void goingOnSilence() {
-        HourClock x = new HourClock();
+        Clock x = new Clock();
         x.pass(10);
         x.addElement(10, 20, 5);
         x.addFiller(5);
@@ -515,15 +515,15 @@ public final class HourTests {
     }
 
     private static void goingOnFixed() {
-        HourClock x = Check.hour("10@3599;10r9;10r8;");
+        Clock x = Check.hour("10@3599;10r9;10r8;");
         x.finish();
         Check.sameText("after 3600 rank 9 goes on, rank 8 is dropped", Check.log(x), "0s 3599e0 3609d2 3609e1");
         Check.same("the hour is over at 3619", x.value(9), 19);
-        HourClock y = Check.hour("10@100;10@50;10@0;");
+        Clock y = Check.hour("10@100;10@50;10@0;");
         y.finish();
         Check.sameText("fixed ones begin in their order", Check.log(y), "0s 100e0 110e1 120e2 130s");
         Check.same("the greatest lateness", y.value(10), 120);
-        HourClock z = Check.hour("10@0;10@10;");
+        Clock z = Check.hour("10@0;10@10;");
         z.finish();
         Check.sameText("what ends and what begins at the same second", Check.log(z), "0e0 10e1 20s");
     }

@@ -17,24 +17,24 @@ public final class TextTests {
     }
 
     private static void p22Append() {
-        HourClock x = new HourClock();
+        Clock x = new Clock();
         int[] wrong = {-1, 128, 255, Integer.MIN_VALUE, Integer.MAX_VALUE};
         for (int w : wrong) {
-            Check.failsArgument("append(" + w + ")", x, () -> x.append(w));
+            Check.failsArgument("append(" + w + ")", x, c -> c.append(w));
         }
         Check.same("append(0)", x.append(0), 1);
         Check.same("append(127)", x.append(127), 2);
         for (int n = 3; n <= 100; n++) {
             Check.same("append number " + n, x.append(n), n);
         }
-        Check.failsState("a 101st byte", x, () -> x.append(59));
-        Check.failsArgument("a 101st byte that is wrong", x, () -> x.append(128));
+        Check.failsState("a 101st byte", x, c -> c.append(59));
+        Check.failsArgument("a 101st byte that is wrong", x, c -> c.append(128));
         Check.same("append saves nothing", Check.saved(x), 0);
         Check.same("100 bytes", x.clearText(), 100);
     }
 
     private static void p23ClearText() {
-        HourClock x = new HourClock();
+        Clock x = new Clock();
         Check.same("clearText() of no text", x.clearText(), 0);
         Check.type(x, "10;+5;");
         Check.same("clearText()", x.clearText(), 6);
@@ -45,9 +45,9 @@ public final class TextTests {
     }
 
     private static void p24Parse() {
-        HourClock x = new HourClock();
+        Clock x = new Clock();
         Check.same("parse() of no text", x.parse(), 0);
-        Check.undoable("parse() of no text", x, () -> x.parse());
+        Check.undoable("parse() of no text", x, c -> c.parse());
         Check.same("parse()", Check.parse(x, "0300;1@0;0001@0001r0;1800r9;1800@3599r5;9r7;+1;+001;+900;"), 6);
         int[][] due = {{300, -1, 5}, {1, 0, 5}, {1, 1, 0}, {1800, -1, 9}, {1800, 3599, 5}, {9, -1, 7}};
         for (int e = 0; e < due.length; e++) {
@@ -69,12 +69,12 @@ public final class TextTests {
     }
 
     private static void p24ParseMakesAnew() {
-        HourClock x = Check.hour("100@5;10@50;20r0;+30;");
+        Clock x = Check.hour("100@5;10@50;20r0;+30;");
         x.stretch(0, 1800);
         x.finish();
         x.again();
         x.finish();
-        Check.undoable("parse() of an hour that is over", x, () -> x.parse());
+        Check.undoable("parse() of an hour that is over", x, c -> c.parse());
         Check.same("the text is still there", x.parse(), 3);
         int[] due = {3, 1, 0, 0, 3, 0, 1, 0, 5, -1, 0, 0, 0, 0};
         for (int what = 0; what < due.length; what++) {
@@ -86,22 +86,22 @@ public final class TextTests {
         Check.same("parse() with something on the air", x.parse(), 3);
         Check.same("nothing is on the air", x.value(13), 0);
         x.pass(30);
-        String before = Check.view(x);
+        String before = Check.view(x.twin());
         long digest = x.digest();
         x.append('?');
         Check.same("a wrong text", x.parse(), -10 - 21);
-        Check.sameText("a wrong text changes nothing", Check.view(x), before);
+        Check.sameText("a wrong text changes nothing", Check.view(x.twin()), before);
         x.clearText();
         Check.type(x, "100@5;10@50;20r0;+30;");
         Check.same("a wrong text saves nothing", x.digest(), digest);
-        HourClock y = new HourClock();
+        Clock y = new Clock();
         Check.parse(y, "1;2;3");
         Check.same("a part of a wrong text makes nothing", y.value(0), 0);
         Check.same("it saves nothing", Check.saved(y), 0);
     }
 
     private static void error(String text, int position) {
-        HourClock x = new HourClock();
+        Clock x = new Clock();
         Check.same("parse() of '" + text + "'", Check.parse(x, text), -10 - position);
         Check.same("elements after '" + text + "'", x.value(0), 0);
         Check.same("saved after '" + text + "'", Check.saved(x), 0);
@@ -190,8 +190,8 @@ public final class TextTests {
     }
 
     private static void p25Undo() {
-        HourClock x = new HourClock();
-        Check.failsState("undo() of nothing", x, () -> x.undo());
+        Clock x = new Clock();
+        Check.failsState("undo() of nothing", x, c -> c.undo());
         x.addElement(1, -1, 5);
         Check.same("one saved state", Check.saved(x), 1);
         x.addElement(2, -1, 5);
@@ -213,34 +213,34 @@ public final class TextTests {
         Check.same("undo()", x.undo(), 0);
         Check.same("two elements", x.value(0), 2);
         Check.same("their lengths", x.element(1, 0), 2);
-        Check.failsState("undo() of no more", x, () -> x.undo());
+        Check.failsState("undo() of no more", x, c -> c.undo());
         undoBringsAllBack();
     }
 
     private static void undoBringsAllBack() {
-        HourClock x = Check.hour("100@5;10@50;20r0;+30;+40;");
+        Clock x = Check.hour("100@5;10@50;20r0;+30;+40;");
         x.finish();
         x.again();
         x.pass(200);
-        String at200 = Check.view(x);
+        String at200 = Check.view(x.twin());
         x.finish();
-        String over = Check.view(x);
+        String over = Check.view(x.twin());
         x.again();
-        String anew = Check.view(x);
+        String anew = Check.view(x.twin());
         Check.parse(x, "7;");
         x.undo();
-        Check.sameText("undo() of parse()", Check.view(x), anew);
+        Check.sameText("undo() of parse()", Check.view(x.twin()), anew);
         x.undo();
-        Check.sameText("undo() of again()", Check.view(x), over);
+        Check.sameText("undo() of again()", Check.view(x.twin()), over);
         x.undo();
-        Check.sameText("undo() of finish()", Check.view(x), at200);
+        Check.sameText("undo() of finish()", Check.view(x.twin()), at200);
         Check.same("one more is left", Check.saved(x), 1);
         x.pass(3600);
-        Check.sameText("what was brought back goes on", Check.view(x), over);
+        Check.sameText("what was brought back goes on", Check.view(x.twin()), over);
     }
 
     private static void p25UndoKeepsText() {
-        HourClock x = Check.hour("10;");
+        Clock x = Check.hour("10;");
         x.append('2');
         Check.same("undo()", x.undo(), 0);
         Check.same("the elements are those from before", x.value(0), 0);
@@ -250,7 +250,7 @@ public final class TextTests {
     }
 
     private static void p26Digest() {
-        HourClock x = new HourClock();
+        Clock x = new Clock();
         sameDigest("new", x, 0, 0);
         Check.type(x, "100@5;10@50;20r0;+30;+40;");
         sameDigest("with a text", x, 25, 0);
@@ -271,10 +271,12 @@ public final class TextTests {
         for (int v : values) {
             fresh = 31 * fresh + v;
         }
-        Check.same("the digest of a new object", new HourClock().digest(), fresh);
+        Check.same("the digest of a new object", new Clock().digest(), fresh);
     }
 
-    private static void sameDigest(String when, HourClock x, int textLength, int saved) {
-        Check.same("digest() " + when, x.digest(), 31 * Check.digestWithoutSaved(x, textLength) + saved);
+    private static void sameDigest(String when, Clock x, int textLength, int saved) {
+        Check.same("digest() " + when, x.digest(), Check.digestOf(x));
+        Check.same("the text " + when, Check.textLength(x), textLength);
+        Check.same("the saved states " + when, Check.saved(x), saved);
     }
 }
