@@ -94,16 +94,14 @@ public final class FaceTests {
             }
             if (isStatic) {
                 Check.same(f.getName() + " is final", f.getModifiers() & Modifier.FINAL, Modifier.FINAL);
-                Check.same(f.getName() + " is a number", f.getType().isPrimitive() ? 1 : 0, 1);
             }
         }
     }
 
     private static void noNameOfTheFace(Class<?> where, TreeSet<String> names) {
         for (Method m : where.getDeclaredMethods()) {
-            boolean hidden = where != HourClock.class || Modifier.isPrivate(m.getModifiers());
-            if (hidden && names.contains(m.getName())) {
-                Check.tell(where + " has a method named " + m.getName());
+            if (Modifier.isPrivate(m.getModifiers()) && names.contains(m.getName())) {
+                Check.tell(where + " has a private method named " + m.getName());
             }
         }
     }

@@ -30,6 +30,7 @@ public final class TextEdgeTests {
         p24TheFirstErrorCounts();
         p24ErrorChangesNothing();
         p24MakesTheHourThatOfTheText();
+        p24AskingBeforeLeavesNoTrace();
         p24TheTextStays();
         p24IsUndoable();
         Check.end("TextEdgeTests");
@@ -396,6 +397,19 @@ public final class TextEdgeTests {
         Check.parse(y, "7;");
         Check.sameRow("what was there before is not there", what -> y.value(what), 1, 0, 0, 0, 1, 0, 0, 0, 3600, -1, 0, 0, 0, 0);
         Check.same("it can be passed", y.pass(7), 7);
+    }
+
+    private static void p24AskingBeforeLeavesNoTrace() {
+        String text = "10@3;20r0;9@15;+30;+4;";
+        Clock x = Check.hour(text);
+        x.finish();
+        x.again();
+        Check.view(x);
+        Check.same("parse() behind questions", x.parse(), 3);
+        Check.sameText("as in a new object", Check.view(x), Check.view(Check.hour(text)));
+        Check.parse(x, "x");
+        Check.same("parse() behind an error", Check.parse(x, text), 3);
+        Check.sameText("as in a new object, behind an error", Check.view(x), Check.view(Check.hour(text)));
     }
 
     private static void p24TheTextStays() {

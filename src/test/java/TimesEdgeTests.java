@@ -37,6 +37,7 @@ public final class TimesEdgeTests {
         p20ByHandNow();
         p21OneAtTheSecond0();
         p21TheShareSoFar();
+        askingOnTheWayLeavesNoTrace();
         Check.end("TimesEdgeTests");
     }
 
@@ -454,5 +455,26 @@ public final class TimesEdgeTests {
         z.stretch(1, 1800);
         z.finish();
         Check.sameDouble("an hour that runs over", z.sounding(), (5400.0 - 3596.0) / 5400.0);
+    }
+
+    // ---- promises 13 to 20
+
+    /** What goes on is the same, whether all was asked at each step or nothing was. */
+    private static void askingOnTheWayLeavesNoTrace() {
+        Clock x = Check.hour("10;20r0;9@15;5;+30;");
+        Clock y = x.twin();
+        for (int step = 1; step <= 3; step++) {
+            Check.view(x);
+            x.pass(step * 6);
+            y.pass(step * 6);
+        }
+        Check.view(x);
+        x.addFiller(8);
+        y.addFiller(8);
+        x.addElement(3, 100, 5);
+        y.addElement(3, 100, 5);
+        x.finish();
+        y.finish();
+        Check.sameText("asked at each step", Check.view(x), Check.view(y));
     }
 }
